@@ -1,7 +1,7 @@
 /** Promises 1 to 5: a new object, seats, come, age, join. */
 public final class ChangesTest {
     private static final int[] WRONG_STREAMS = {-1, 2, 3, Integer.MIN_VALUE, Integer.MAX_VALUE};
-    private static final int[] WRONG_CODES = {0, -1, 27, 54, 27 * 27, 27 * 28, 27 * 27 * 27 + 27 + 1, 531441, 531442,
+    private static final int[] WRONG_CODES = {0, -1, 27, 54, 27 * 27, 27 * 28, 27 * 27 * 27 + 27 + 1, 531441, 551881,
             Integer.MIN_VALUE, Integer.MAX_VALUE};
 
     private static final Checks checks = new Checks();
@@ -18,6 +18,7 @@ public final class ChangesTest {
         ageGivesUp();
         join();
         joinWithGuestsWithoutSeats();
+        joinTwice();
         joinOrder();
         joinTooMany();
         checks.finish();
@@ -250,6 +251,21 @@ public final class ChangesTest {
         y.join();
         // Not all seats of the stream 1 are taken: nothing is added there. c: 3 + 4, surely 4.
         checks.dueRow("joined", Checks.row(y, 0), 3, 7, 3, 4, 1, 5, 0, 5);
+    }
+
+    private static void joinTwice() {
+        HeavyGuests x = new HeavyGuests();
+        Checks.carryOut(x, "a*9;b*8;>c*7;>d*6");
+        checks.due("join", x.join(), 4);
+        x.seats(2);
+        Checks.carryOut(x, ">e*5");
+        checks.due("join again", x.join(), 2);
+        // Two seats were all taken by a and b; e can have come 8 times besides.
+        checks.dueRow("nothing of the first time is left", Checks.row(x, 0), 5, 13, 8, 5, 1, 9, 0, 9);
+        x.age(0);
+        x.age(0);
+        checks.due("join after ageing", x.join(), 2);
+        checks.dueRow("seats", Checks.row(x, 0), 5, 3, 2, 1, 1, 2, 0, 2);
     }
 
     private static void joinOrder() {

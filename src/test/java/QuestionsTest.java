@@ -1,7 +1,7 @@
 /** Promises 6 to 15: seat, of, stream, count, above, heaviest, truly, sureOrder, wouldTake, doubt. */
 public final class QuestionsTest {
     private static final int[] WRONG_STREAMS = {-1, 2, 3, Integer.MIN_VALUE, Integer.MAX_VALUE};
-    private static final int[] WRONG_CODES = {0, -1, 27, 54, 27 * 27, 27 * 28, 27 * 27 * 27 + 27 + 1, 531441, 531442,
+    private static final int[] WRONG_CODES = {0, -1, 27, 54, 27 * 27, 27 * 28, 27 * 27 * 27 + 27 + 1, 531441, 551881,
             Integer.MIN_VALUE, Integer.MAX_VALUE};
 
     private static final Checks checks = new Checks();
@@ -102,6 +102,10 @@ public final class QuestionsTest {
         checks.dueRow("numbers", Checks.numbers(x, 0), 13, 2, 3, 6, 13, 5, 2);
         x.seats(3);
         checks.dueRow("not all are taken", Checks.numbers(x, 0), 13, 2, 3, 0, 13, 5, 2);
+        HeavyGuests y = new HeavyGuests();
+        y.seats(2);
+        Checks.carryOut(y, "a*2;b*3;c");
+        checks.dueRow("the first seat's excess", Checks.numbers(y, 0), 6, 2, 3, 3, 6, 2, 1);
         for (int stream : WRONG_STREAMS) {
             checks.due("stream " + stream, x.stream(stream, 0), HeavyGuests.NO_SUCH);
             checks.due("stream " + stream, x.stream(stream, 7), HeavyGuests.NO_SUCH);

@@ -1,3 +1,5 @@
+import java.util.stream.IntStream;
+
 /** Counts the answers that are not due, and helps to write calls down. */
 final class Checks {
     private int done;
@@ -96,6 +98,22 @@ final class Checks {
             tally[2 * i + 1] = x.of(stream, tally[2 * i], 3);
         }
         return tally;
+    }
+
+    /**
+     * All that an object answers without a change, at most 400 calls: a place that is left free, the
+     * three counts, the fault, and both streams with their seats, true counts, order and sure order.
+     */
+    static int[] seen(HeavyGuests x) {
+        IntStream seen = IntStream.of(0, x.count(0), x.count(1), x.count(2), x.fault());
+        for (int stream = 0; stream < 2; stream++) {
+            seen = IntStream.concat(seen, IntStream.of(numbers(x, stream)));
+            seen = IntStream.concat(seen, IntStream.of(row(x, stream)));
+            seen = IntStream.concat(seen, IntStream.of(tally(x, stream)));
+            seen = IntStream.concat(seen, IntStream.of(heaviest(x, stream)));
+            seen = IntStream.concat(seen, IntStream.of(x.sureOrder(stream)));
+        }
+        return seen.toArray();
     }
 
     /** The codes by heaviest(). */

@@ -1,8 +1,5 @@
 /** Promises 6 to 15: a test for each sentence that names a boundary, with its words. */
 public final class BoundsOfAnswersTest {
-    private static final int[] NO_CODES = {0, -1, -26, 27, 54, 27 * 26, 27 * 27, 27 * 27 + 1, 756, 19683, 20439, 531441,
-        531440 + 65536, 1 << 31 | 1, Integer.MIN_VALUE, Integer.MAX_VALUE};
-
     private static final Checks checks = new Checks();
     private static final Refusals refusals = new Refusals(checks);
 
@@ -135,7 +132,7 @@ public final class BoundsOfAnswersTest {
 
     /** of: "BAD_VALUE if guest is no code": not NONE, which "is returned only if no error applies". */
     private static void ofNoCode() {
-        for (int guest : NO_CODES) {
+        for (int guest : Refusals.NO_CODES) {
             for (int what = 0; what < 5; what++) {
                 int asked = what;
                 refusals.always("of(0, " + guest + ", " + what + ")", x -> x.of(0, guest, asked), HeavyGuests.BAD_VALUE);
@@ -169,7 +166,10 @@ public final class BoundsOfAnswersTest {
         checks.due("of the one left", x.of(1, 13, 0), 0);
     }
 
-    /** "The most that it can have come is the count of its seat; without a seat the least count of all seats, if all are taken, otherwise 0." */
+    /**
+     * "The most that it can have come is the count of its seat; without a seat the least count of all
+     * seats, if all are taken, otherwise 0."
+     */
     private static void ofMost() {
         for (int seats = 1; seats <= 12; seats++) {
             HeavyGuests x = new HeavyGuests();
@@ -589,18 +589,30 @@ public final class BoundsOfAnswersTest {
         checks.due("none is unsure", seated(0, 0, sure).sureOrder(0), 4);
     }
 
+    private interface AskedOfAGuest {
+        int ask(HeavyGuests x, int stream, int guest);
+    }
+
+    private static void errorsOfAsking(String call, AskedOfAGuest asked) {
+        for (int stream : Refusals.outside(0, 1)) {
+            for (int guest : new int[] {1, 0}) {
+                refusals.always(call + "(" + stream + ", " + guest + ")", x -> asked.ask(x, stream, guest),
+                        HeavyGuests.NO_SUCH);
+            }
+        }
+        for (int guest : Refusals.NO_CODES) {
+            for (int stream = 0; stream < 2; stream++) {
+                int of = stream;
+                refusals.always(call + "(" + stream + ", " + guest + ")", x -> asked.ask(x, of, guest), HeavyGuests.BAD_VALUE);
+            }
+        }
+        checks.due(call + "(0, 1)", asked.ask(new HeavyGuests(), 0, 1), 0);
+        checks.due(call + "(1, 531440)", asked.ask(new HeavyGuests(), 1, 531440), 0);
+    }
+
     /** wouldTake: "NO_SUCH if there is no such stream; BAD_VALUE if guest is no code", in this order. */
     private static void wouldTakeErrors() {
-        for (int stream : Refusals.outside(0, 1)) {
-            refusals.always("wouldTake(" + stream + ", 1)", x -> x.wouldTake(stream, 1), HeavyGuests.NO_SUCH);
-            refusals.always("wouldTake(" + stream + ", 0)", x -> x.wouldTake(stream, 0), HeavyGuests.NO_SUCH);
-        }
-        for (int guest : NO_CODES) {
-            refusals.always("wouldTake(0, " + guest + ")", x -> x.wouldTake(0, guest), HeavyGuests.BAD_VALUE);
-            refusals.always("wouldTake(1, " + guest + ")", x -> x.wouldTake(1, guest), HeavyGuests.BAD_VALUE);
-        }
-        checks.due("the greatest code", new HeavyGuests().wouldTake(0, 531440), 0);
-        checks.due("the least code", new HeavyGuests().wouldTake(0, 1), 0);
+        errorsOfAsking("wouldTake", HeavyGuests::wouldTake);
     }
 
     /** wouldTake: "its own, if it has one", the next free one, or "the seat that would be .. taken over". */
@@ -634,14 +646,7 @@ public final class BoundsOfAnswersTest {
 
     /** doubt: "errors as for wouldTake()". */
     private static void doubtErrors() {
-        for (int stream : Refusals.outside(0, 1)) {
-            refusals.always("doubt(" + stream + ", 1)", x -> x.doubt(stream, 1), HeavyGuests.NO_SUCH);
-            refusals.always("doubt(" + stream + ", 0)", x -> x.doubt(stream, 0), HeavyGuests.NO_SUCH);
-        }
-        for (int guest : NO_CODES) {
-            refusals.always("doubt(0, " + guest + ")", x -> x.doubt(0, guest), HeavyGuests.BAD_VALUE);
-            refusals.always("doubt(1, " + guest + ")", x -> x.doubt(1, guest), HeavyGuests.BAD_VALUE);
-        }
+        errorsOfAsking("doubt", HeavyGuests::doubt);
     }
 
     /** doubt: "the most that it can have come, less the least that it must have come", with a seat and without one. */

@@ -5,8 +5,6 @@ import java.util.List;
 /** Promises 1 to 5 and their terms: a test for each sentence that names a boundary, with its words. */
 public final class BoundsOfChangesTest {
     private static final int MOST_SEATS = 12;
-    private static final int[] NO_CODES = {0, -1, -27, 27, 54, 27 * 26, 27 * 27, 27 * 27 + 1, 27 * 27 + 26, 756, 19683, 20439,
-        531441, 531440 + 65536, 531467, 1 << 31 | 1, Integer.MIN_VALUE, Integer.MAX_VALUE};
 
     private static final Checks checks = new Checks();
     private static final Refusals refusals = new Refusals(checks);
@@ -251,7 +249,7 @@ public final class BoundsOfChangesTest {
 
     /** come: "BAD_VALUE if guest is no code". */
     private static void comeWithACode() {
-        for (int guest : NO_CODES) {
+        for (int guest : Refusals.NO_CODES) {
             refusals.always("come(0, " + guest + ", 1)", x -> x.come(0, guest, 1), HeavyGuests.BAD_VALUE);
             refusals.always("come(1, " + guest + ", 1)", x -> x.come(1, guest, 1), HeavyGuests.BAD_VALUE);
         }
@@ -495,7 +493,9 @@ public final class BoundsOfChangesTest {
 
     /** join: "TOO_MANY if more than 60 unlike guests came to both". */
     private static void joinSixtyUnlike() {
-        int[][] justSixty = {{60, 0, 0}, {0, 0, 60}, {59, 59, 1}, {1, 1, 59}, {30, 30, 30}, {40, 20, 40}, {60, 0, 60}, {60, 59, 1}};
+        // How many came to the stream 0, from which one on to the stream 1, and how many there.
+        int[][] justSixty = {{60, 0, 0}, {0, 0, 60}, {59, 59, 1}, {1, 1, 59}, {30, 30, 30}, {40, 20, 40}, {60, 0, 60},
+            {60, 59, 1}};
         for (int[] row : justSixty) {
             HeavyGuests x = unlikeInBoth(row[0], row[1], row[2]);
             checks.due("60 unlike ones", x.join(), 4);

@@ -1,4 +1,3 @@
-import java.util.Arrays;
 import java.util.List;
 import java.util.function.ToIntFunction;
 
@@ -294,25 +293,28 @@ public final class BoundsOfHistoryTest {
         checks.due("what was not saved", x.restore(1), HeavyGuests.NOT_POSSIBLE);
     }
 
-    /** restore: "what was saved last in a slot, which keeps it". */
+    /** restore: "what was saved last in a slot, which keeps it": however often it is restored. */
     private static void restoreKeeps() {
-        HeavyGuests x = Refusals.inUse();
-        x.save(0);
-        int[] saved = state(x);
-        x.seats(12);
-        x.wipe();
-        Checks.carryOut(x, "&;z*9");
-        x.save(1);
-        int[] other = state(x);
-        for (int round = 0; round < 4; round++) {
-            x.restore(0);
-            checks.holds("what was saved, round " + round, Arrays.equals(state(x), saved));
-            x.age(0);
-            x.join();
-            x.seats(1);
-            x.restore(1);
-            checks.holds("what was saved in the other, round " + round, Arrays.equals(state(x), other));
-            Checks.carryOut(x, ">b;%0;c*9");
+        for (int rounds = 0; rounds < 4; rounds++) {
+            for (int slot = 0; slot < 2; slot++) {
+                HeavyGuests x = Refusals.inUse();
+                x.save(0);
+                int[] inZero = state(x);
+                x.seats(12);
+                x.wipe();
+                Checks.carryOut(x, "&;z*9");
+                x.save(1);
+                int[] inOne = state(x);
+                for (int round = 0; round < rounds; round++) {
+                    x.restore(0);
+                    Checks.carryOut(x, "%0;&;y*7");
+                    x.seats(1);
+                    x.restore(1);
+                    Checks.carryOut(x, ">b;%0;c*9");
+                }
+                x.restore(slot);
+                checks.dueRow("slot " + slot + " after " + rounds + " rounds", state(x), slot == 0 ? inZero : inOne);
+            }
         }
     }
 

@@ -230,8 +230,8 @@ public final class BoundsOfTextsTest {
     private static void carryOutAFault() {
         refusals.in("new", HeavyGuests::new, "carryOut()", HeavyGuests::carryOut, HeavyGuests.BAD_TEXT);
         refusals.in("begun", Refusals::begun, "carryOut()", HeavyGuests::carryOut, HeavyGuests.BAD_TEXT);
-        String[] texts = {"!", "a!", "a;", "a;b;", ">", "a;>", "a*", "a*1000", "a*00", "a*01", "%", "%2", "abcde", "&&", "a;;b", ";a",
-            "a;b;c;%0;&;d!", "A", "a;".repeat(40), "a".repeat(PAD), "a;".repeat(39) + "a!"};
+        String[] texts = {"!", "a!", "a;", "a;b;", ">", "a;>", "a*", "a*1000", "a*00", "a*01", "%", "%2", "abcde", "&&", "a;;b",
+            ";a", "a;b;c;%0;&;d!", "A", "a;".repeat(40), "a".repeat(PAD), "a;".repeat(39) + "a!"};
         for (String text : texts) {
             refusals.in(text, () -> inUseWithPad(text), "carryOut()", HeavyGuests::carryOut, HeavyGuests.BAD_TEXT);
             HeavyGuests x = withPad(text);

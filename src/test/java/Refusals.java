@@ -8,6 +8,10 @@ import java.util.function.ToIntFunction;
  * than 512 calls.
  */
 final class Refusals {
+    /** At the bounds, with a digit 0 at each place, of five letters, and what would be a code if high bits were lost. */
+    static final int[] NO_CODES = {0, -1, -26, -27, 27, 54, 27 * 26, 27 * 27, 27 * 27 + 1, 27 * 27 + 26, 756, 19683, 20439,
+        531441, 531440 + 65536, 531467, 1 << 31 | 1, Integer.MIN_VALUE, Integer.MAX_VALUE};
+
     private static final int LOOKS = 11;
 
     private final Checks checks;

@@ -60,7 +60,7 @@ public final class BoundsOfHistoryTest {
     private static HeavyGuests allUndone(int changes) {
         HeavyGuests x = Refusals.ready();
         for (int i = 0; i < changes; i++) {
-            x.come(i % 2, 1 + i, 2 + i);
+            x.come(i % 2, 6 + i, 2 + i);
         }
         for (int i = 0; i < Math.min(changes, MOST_STATES); i++) {
             x.undo();

@@ -39,6 +39,10 @@ public final class BoundsOfChangesTest {
         joinAlike();
         joinAllSeatsTaken();
         joinBeginsAnew();
+        seatsStayGivenUp();
+        ageLeavesNothingBehind();
+        joinLeavesNothingBehind();
+        undoLeavesNothingBehind();
         checks.finish();
     }
 
@@ -665,5 +669,90 @@ public final class BoundsOfChangesTest {
         checks.due("SEATS stay", x.count(0), 3);
         checks.due("the first seat", x.come(1, 5, 2), 0);
         checks.dueRow("nothing is left", Checks.row(x, 1), 5, 2, 0, 2);
+    }
+
+    /** "those seats are given up": for good, also when there are more again and what is left ages or is joined. */
+    private static void seatsStayGivenUp() {
+        for (int stream = 0; stream < 2; stream++) {
+            HeavyGuests x = new HeavyGuests();
+            for (int guest = 1; guest <= 4; guest++) {
+                x.come(stream, guest, 80 - guest);
+            }
+            x.seats(2);
+            x.seats(12);
+            checks.dueRow("two are left", Checks.row(x, stream), 1, 79, 0, 79, 2, 78, 0, 78);
+            x.age(stream);
+            checks.dueRow("two are left when they aged", Checks.row(x, stream), 1, 39, 0, 39, 2, 39, 0, 39);
+            checks.dueRow("the true counts of all", Checks.tally(x, stream), 1, 39, 2, 39, 3, 38, 4, 38);
+            x.join();
+            checks.dueRow("two are left when they were joined", Checks.row(x, 0), 1, 39, 0, 39, 2, 39, 0, 39);
+            checks.due("the third seat", x.come(0, 3, 1), 2);
+            checks.dueRow("without its count", Checks.row(x, 0), 1, 39, 0, 39, 2, 39, 0, 39, 3, 1, 0, 39);
+        }
+    }
+
+    /** "Seats whose count is 0 then are given up", "Guests whose true count is 0 are not counted any more": for good. */
+    private static void ageLeavesNothingBehind() {
+        for (int stream = 0; stream < 2; stream++) {
+            HeavyGuests x = new HeavyGuests();
+            x.come(stream, 1, 1);
+            x.come(stream, 2, 1);
+            x.come(stream, 3, 8);
+            x.come(stream, 4, 9);
+            for (int count = 4; count > 0; count /= 2) {
+                x.age(stream);
+                checks.dueRow("seats left", Checks.row(x, stream), 3, count, 0, count, 4, count, 0, count);
+                checks.dueRow("true counts left", Checks.tally(x, stream), 3, count, 4, count);
+            }
+            x.age(stream);
+            x.age(stream);
+            checks.dueRow("nothing is left", Checks.numbers(x, stream), 0, 0, 0, 0, 0, 0, 0);
+            checks.due("the first seat", x.come(stream, 2, 2), 0);
+            checks.dueRow("of whom came then", Checks.row(x, stream), 2, 2, 0, 2);
+            checks.dueRow("the only true count", Checks.tally(x, stream), 2, 2);
+        }
+    }
+
+    /** "The stream 1 begins anew, without guests": none of them is there again when it ages or is joined. */
+    private static void joinLeavesNothingBehind() {
+        HeavyGuests x = new HeavyGuests();
+        Checks.carryOut(x, "a*6;>b*9;>c*8;>d*7");
+        x.join();
+        int[] joined = {2, 9, 0, 9, 3, 8, 0, 8, 4, 7, 0, 7, 1, 6, 0, 6};
+        checks.dueRow("joined", Checks.row(x, 0), joined);
+        checks.due("age(1)", x.age(1), 0);
+        checks.dueRow("no guests when it aged", Checks.numbers(x, 1), 0, 0, 0, 0, 0, 0, 0);
+        checks.due("nobody to join", x.join(), 4);
+        checks.dueRow("as before", Checks.row(x, 0), joined);
+        checks.dueRow("true counts as before", Checks.tally(x, 0), 2, 9, 3, 8, 4, 7, 1, 6);
+        x.come(1, 5, 3);
+        x.age(1);
+        checks.dueRow("only who came then", Checks.row(x, 1), 5, 1, 0, 1);
+        checks.dueRow("the only true count", Checks.tally(x, 1), 5, 1);
+    }
+
+    /** What came and was undone, or was there ahead of restore(), is not there again when the stream ages or is joined. */
+    private static void undoLeavesNothingBehind() {
+        for (int stream = 0; stream < 2; stream++) {
+            for (int way = 0; way < 2; way++) {
+                HeavyGuests x = new HeavyGuests();
+                x.come(stream, 1, 20);
+                x.save(1);
+                x.come(stream, 2, 30);
+                x.come(stream, 3, 40);
+                if (way == 0) {
+                    x.undo();
+                    x.undo();
+                } else {
+                    x.restore(1);
+                }
+                x.age(stream);
+                checks.dueRow("seats when it aged", Checks.row(x, stream), 1, 10, 0, 10);
+                checks.dueRow("true counts when it aged", Checks.tally(x, stream), 1, 10);
+                x.join();
+                checks.dueRow("seats when it was joined", Checks.row(x, 0), 1, 10, 0, 10);
+                checks.dueRow("numbers when it was joined", Checks.numbers(x, 0), 10, 1, 1, 0, 10, 0, 0);
+            }
+        }
     }
 }
